@@ -31,8 +31,8 @@ public final class PhaseLights {
     private final History history = new History();
     private final State[] slots = new State[SLOTS];
     private int savedSlots;
-    private final Pad pad = new Pad();
-    private final Orders orders = new Orders(pad);
+    private final Orders orders = new Orders();
+    private final Pad pad = orders.pad;
     private final Loads loads = new Loads();
     private final Worst worst = new Worst();
     private final Trial trial = new Trial();
@@ -1166,11 +1166,11 @@ public final class PhaseLights {
         }
     }
 
-    /** The orders of the pad, read from left to right; the place at which reading stops is the fault. */
+    /** The pad and its orders, read from left to right; the place at which reading stops is the fault. */
     private static final class Orders {
         private static final int LEVELS = 0, RECORD = 1, GO = 2, RESET = 3;
 
-        private final Pad pad;
+        final Pad pad = new Pad();
         int place;
         /** The sign at the place; NONE behind the text. */
         private int sign;
@@ -1183,10 +1183,6 @@ public final class PhaseLights {
         private int spans;
         private final int[] spanFirst = new int[PAD_LENGTH];
         private final int[] spanLast = new int[PAD_LENGTH];
-
-        Orders(Pad pad) {
-            this.pad = pad;
-        }
 
         boolean read() {
             orders = 0;

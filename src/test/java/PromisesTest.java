@@ -187,6 +187,34 @@ public final class PromisesTest {
     due("6: inCue(0, 5, 3)", x.inCue(0, 5, 3), 0);
     for (int left = 3; left >= 0; left--) due("6: takeDown(0, 0)", x.takeDown(0, 0), left);
     due("6: takeDown(0, 0) of none", x.takeDown(0, 0), NO_SUCH);
+    takeDownOfTwelve();
+  }
+
+  /** The lamp that comes on the last place of a full rig finds nothing there, and the fade keeps both its ends. */
+  private static void takeDownOfTwelve() {
+    PhaseLights x = rig(12, 100);
+    Check.text(x, "0>11@80;10@60;11@20;r0/1;g0");
+    x.carryOut(0);
+    x.tick(1);
+    Check.text(x, "10@100;11@0;r1/2;g1");
+    x.carryOut(0);
+    due("6: takeDown(0, 3)", x.takeDown(0, 3), 11);
+    due("6: hang(0, 0, 2)", x.hang(0, 0, 2), 11);
+    due("6: lamp(0, 9, 2)", x.lamp(0, 9, 2), 100);
+    due("6: inCue(0, 0, 9)", x.inCue(0, 0, 9), 60);
+    due("6: inCue(0, 0, 10)", x.inCue(0, 0, 10), 20);
+    due("6: inCue(0, 0, 11)", x.inCue(0, 0, 11), 0);
+    due("6: lamp(0, 11, 2)", x.lamp(0, 11, 2), 0);
+    due("6: lamp(0, 11, 3)", x.lamp(0, 11, 3), 0);
+    x.tick(1);
+    due("6: lamp(0, 8, 3)", x.lamp(0, 8, 3), 80);
+    due("6: lamp(0, 9, 3)", x.lamp(0, 9, 3), 80);
+    due("6: lamp(0, 10, 3)", x.lamp(0, 10, 3), 10);
+    due("6: lamp(0, 11, 3)", x.lamp(0, 11, 3), 0);
+    x.tick(1);
+    due("6: lamp(0, 9, 3)", x.lamp(0, 9, 3), 100);
+    due("6: lamp(0, 10, 3)", x.lamp(0, 10, 3), 0);
+    due("6: lamp(0, 11, 3)", x.lamp(0, 11, 3), 0);
   }
 
   private static void patch() {
@@ -461,6 +489,12 @@ public final class PromisesTest {
 
   private static void carryOutSpans() {
     PhaseLights x = rig(3, 100);
+    Check.text(x, "2@6");
+    due("15: carryOut(0)", x.carryOut(0), 1);
+    due("15: lamp(0, 0, 2)", x.lamp(0, 0, 2), 0);
+    due("15: lamp(0, 2, 2)", x.lamp(0, 2, 2), 6);
+    Check.text(x, "2@0");
+    x.carryOut(0);
     Check.text(x, "5>1@8");
     due("15: carryOut(0), lamp 5 is the first", x.carryOut(0), 0);
     due("15: lamp(0, 2, 2)", x.lamp(0, 2, 2), 0);
@@ -671,6 +705,18 @@ public final class PromisesTest {
     due("23: count(3), of several the first", x.count(3), 1);
     x.hang(2, 0, 0);
     due("23: count(3)", x.count(3), 5);
+    PhaseLights y = new PhaseLights();
+    y.type(100, 0, 7);
+    y.type(100, 1, 9);
+    y.hang(0, 1, 0);
+    y.days(0, 5, 6);
+    due("23: count(3), a single lamp", y.count(3), 5);
+    due("23: count(1)", y.count(1), 18);
+    y.hang(1, 0, 0);
+    due("23: count(2), on day 0", y.count(2), 1);
+    due("23: count(3), of several the first", y.count(3), 0);
+    y.days(1, 6, 6);
+    due("23: count(3)", y.count(3), 6);
     due("23: count(9)", x.count(9), BAD_VALUE);
     due("23: count(-1)", x.count(-1), BAD_VALUE);
   }
@@ -710,6 +756,10 @@ public final class PromisesTest {
     x.reset(0);
     x.set(0, 1000);
     due("24: ifGo(0, 0, 1), from the levels of now", x.ifGo(0, 0, 1), 20);
+    PhaseLights y = rig(1, 2000);
+    y.record(0, 0, 5);
+    due("24: ifGo(0, 0, 2) without a load", y.ifGo(0, 0, 2), 0);
+    due("24: ifGo(0, 0, 3) without a load", y.ifGo(0, 0, 3), 0);
   }
 
   private static void safeTicks() {
@@ -879,32 +929,106 @@ public final class PromisesTest {
     undoLeaves();
   }
 
-  /** Each change by itself is one that can be undone. */
+  /** Each change by itself is one that can be undone, and is undone whole. */
   private static void undoOfEach() {
-    PhaseLights x = rig(1, 100);
-    x.save(0);
-    for (int round = 0; round < 2; round++) {
-      x.type(500, 1, 1);
+    for (int change = 0; change < 15; change++) {
+      PhaseLights x = rig(1, 100);
       x.days(1, 1, 2);
-      x.hang(1, 0, 0);
-      x.patch(1, 0, 5);
-      x.feed(1, 0, 2);
-      x.spread(1);
-      due("31: count(8)", x.count(8), 6);
-      for (int left = 5; left >= 0; left--) due("31: undo()", x.undo(), left);
-      x.at(0, 0, 3);
-      x.record(0, 1, 3);
-      x.go(0, 1);
-      x.reset(0);
-      x.tick(1);
+      x.at(0, 0, 40);
+      x.record(0, 0, 7);
+      x.save(0);
+      while (x.count(8) > 0) x.undo();
       x.restore(0);
-      due("31: count(8)", x.count(8), 6);
-      for (int left = 5; left >= 0; left--) due("31: undo()", x.undo(), left);
-      due("31: of(0, 3)", x.of(0, 3), 0);
-      due("31: of(1, 2)", x.of(1, 2), 0);
-      due("31: of(1, 1)", x.of(1, 1), 0);
-      due("31: count(0)", x.count(0), 1);
+      long before = picture(x);
+      Check.holds("31: change " + change + " is no error", change(x, change) >= 0);
+      due("31: count(8) behind change " + change, x.count(8), 2);
+      due("31: undo() of change " + change, x.undo(), 1);
+      due("31: all is as before change " + change, picture(x), before);
     }
+    undoOfTypes();
+    undoOfFades();
+  }
+
+  private static int change(PhaseLights x, int change) {
+    switch (change) {
+      case 0: return x.set(1, 9000);
+      case 1: return x.type(500, 1, 1);
+      case 2: return x.days(1, 0, 2);
+      case 3: return x.hang(1, 0, 0);
+      case 4: return x.patch(0, 0, 5);
+      case 5: return x.feed(1, 0, 2);
+      case 6: return x.spread(1);
+      case 7: return x.at(0, 0, 3);
+      case 8: return x.record(0, 0, 3);
+      case 9: return x.go(0, 0);
+      case 10: return x.reset(0);
+      case 11: return x.tick(1);
+      case 12: return x.restore(0);
+      case 13: return x.takeDown(0, 0);
+      default:
+        Check.text(x, "0@9;r1/9;g1;x");
+        return x.carryOut(0);
+    }
+  }
+
+  /** A number that is made of many answers. */
+  private static long picture(PhaseLights x) {
+    long sum = 0;
+    for (int what = 0; what < 7; what++) sum = sum * 31 + x.count(what);
+    for (int p = 0; p < 3; p++) {
+      for (int what = 0; what < 9; what++) sum = sum * 31 + x.of(p, what);
+      for (int i = 0; i < 12; i++) {
+        for (int what = 0; what < 6; what++) {
+          sum = sum * 31 + x.lamp(p, i, what);
+          sum = sum * 31 + x.dimmer(p, i, what);
+          sum = sum * 31 + x.phase(p, i, what);
+          sum = sum * 31 + x.cue(p, i, what);
+          sum = sum * 31 + x.hire(what, i, 0);
+        }
+      }
+    }
+    return sum;
+  }
+
+  private static void undoOfTypes() {
+    PhaseLights x = new PhaseLights();
+    x.type(1000, 3, 5);
+    x.hang(0, 0, 0);
+    x.at(0, 0, 100);
+    x.record(0, 0, 1);
+    x.save(0);
+    while (x.count(8) > 0) x.undo();
+    x.type(100, 0, 9);
+    x.restore(0);
+    due("33: cue(0, 0, 2), the watts", x.cue(0, 0, 2), 1000);
+    due("33: hire(0, 0, 1), the stock", x.hire(0, 0, 1), 0);
+    due("33: hire(0, 0, 2), the price", x.hire(0, 0, 2), 5);
+    x.undo();
+    due("31: hire(0, 0, 0)", x.hire(0, 0, 0), 0);
+    due("31: hang(0, 0, 0)", x.hang(0, 0, 0), 0);
+    due("31: hire(0, 0, 1), the stock", x.hire(0, 0, 1), 1);
+    due("31: hire(0, 0, 2), the price", x.hire(0, 0, 2), 0);
+  }
+
+  /** Both ends of a fade come back. */
+  private static void undoOfFades() {
+    PhaseLights x = rig(1, 100);
+    Check.text(x, "0@80;r0/1;0@40;r1/4;g0");
+    x.carryOut(0);
+    x.tick(1);
+    x.go(0, 1);
+    x.tick(1);
+    due("31: lamp(0, 0, 3)", x.lamp(0, 0, 3), 70);
+    x.go(0, 0);
+    x.tick(1);
+    due("31: lamp(0, 0, 3)", x.lamp(0, 0, 3), 80);
+    x.undo();
+    x.undo();
+    due("31: of(0, 4)", x.of(0, 4), 3);
+    x.tick(1);
+    due("31: lamp(0, 0, 3)", x.lamp(0, 0, 3), 60);
+    x.tick(2);
+    due("31: lamp(0, 0, 3)", x.lamp(0, 0, 3), 40);
   }
 
   /** Trips, counts and fades come back; the pad and the slots are left. */
