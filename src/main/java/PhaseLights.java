@@ -278,7 +278,9 @@ public final class PhaseLights {
         switch (what) {
             case 0: return found.isRecorded(cue) ? 1 : 0;
             case 1: return found.cueTicks[cue];
-            case 2: return loadByCue(found, cue);
+            case 2:
+                loads.measureCue(found, cue, state.types);
+                return loads.sumOfPhases();
             default: return BAD_VALUE;
         }
     }
@@ -389,12 +391,12 @@ public final class PhaseLights {
         }
         int previous = found.dimmerPhase[dimmer];
         int best = 0;
-        int leastSoFar = Integer.MAX_VALUE;
+        int leastSoFar = 0;
         for (int phase = 0; phase < PHASES; phase++) {
             found.dimmerPhase[dimmer] = phase;
             worst.measure(found, state.types);
             int reached = greatest(worst.loads.ofPhase);
-            if (reached < leastSoFar) {
+            if (phase == 0 || reached < leastSoFar) {
                 leastSoFar = reached;
                 best = phase;
             }
@@ -474,14 +476,6 @@ public final class PhaseLights {
 
     // ---- small helpers
 
-    private int loadByCue(Premiere premiere, int cue) {
-        if (!premiere.isRecorded(cue)) {
-            return 0;
-        }
-        loads.measureCue(premiere, cue, state.types);
-        return loads.sumOfPhases();
-    }
-
     private static boolean isIn(int value, int least, int most) {
         return value >= least && value <= most;
     }
@@ -519,7 +513,7 @@ public final class PhaseLights {
     }
 
     private static int least(int[] row) {
-        int least = Integer.MAX_VALUE;
+        int least = row.length > 0 ? row[0] : 0;
         for (int number : row) {
             least = Math.min(least, number);
         }
@@ -1007,6 +1001,7 @@ public final class PhaseLights {
             }
         }
 
+        /** By a cue that is not recorded there is no load. */
         void measureCue(Premiere premiere, int cue, Types types) {
             empty();
             if (!premiere.isRecorded(cue)) {
@@ -1048,11 +1043,9 @@ public final class PhaseLights {
         void measure(Premiere premiere, Types types) {
             loads.empty();
             for (int cue = 0; cue < CUES; cue++) {
-                if (premiere.isRecorded(cue)) {
-                    byCue.measureCue(premiere, cue, types);
-                    raise(loads.ofDimmer, byCue.ofDimmer);
-                    raise(loads.ofPhase, byCue.ofPhase);
-                }
+                byCue.measureCue(premiere, cue, types);
+                raise(loads.ofDimmer, byCue.ofDimmer);
+                raise(loads.ofPhase, byCue.ofPhase);
             }
         }
     }

@@ -8,7 +8,9 @@ import java.util.Random;
 
 /** Runs of calls, made from seeds, on the program and on the Model: each answer has to be the same. */
 public final class ModelTest {
-  private static final int RUNS = 1500;
+  private static final int RUNS = 4000;
+  /** What later calls on an object answer is free. */
+  private static final int MOST_CALLS = 512;
   private static final int NONE = PhaseLights.NONE;
   private static final long[] EDGES = {
     Integer.MIN_VALUE, -1000, -7, -6, -5, -2, -1, 0, 1, 2, 3, 4, 5, 6, 7, 8, 9, 11, 12, 20, 31, 32, 33, 50, 51,
@@ -55,7 +57,8 @@ public final class ModelTest {
 
   private boolean run() throws Exception {
     begin();
-    for (int i = 0; i < 280 && good; i++) step();
+    int changing = random.nextInt(3) == 0 ? MOST_CALLS : 130;
+    while (good && log.size() < changing) step();
     if (good) lookAtAll();
     return good;
   }
@@ -77,20 +80,23 @@ public final class ModelTest {
     else texts();
   }
 
+  /** As far as there are calls left: at home first. */
   private void lookAtAll() throws Exception {
     for (int what = -1; what <= 9; what++) call("count", what);
-    for (int p = 0; p < 3 && good; p++) {
-      for (int what = -1; what <= 9; what++) call("of", p, what);
-      for (int i = 0; i < 12; i++) for (int what = 0; what <= 5; what++) call("lamp", p, i, what);
-      for (int i = 0; i < 12; i++) for (int what = 0; what <= 6; what++) call("dimmer", p, i, what);
-      for (int i = 0; i < 3; i++) for (int what = 0; what <= 5; what++) call("phase", p, i, what);
-      for (int i = 0; i < 8; i++) for (int what = 0; what <= 3; what++) call("cue", p, i, what);
-      for (int i = 0; i < 8; i++) for (int l = 0; l < 12; l++) call("inCue", p, i, l);
-      for (int i = 0; i < 8; i++) for (int what = 0; what <= 4; what++) call("ifGo", p, i, what);
-      for (int i = 0; i < 8; i++) call("safeTicks", p, i);
-      for (int i = 0; i < 12; i++) call("bestFeed", p, i);
-    }
+    lookAt(home);
     for (int t = 0; t < 6; t++) for (int d = 0; d < 7; d++) for (int w = 0; w <= 3; w++) call("hire", t, d, w);
+  }
+
+  private void lookAt(int p) throws Exception {
+    for (int what = -1; what <= 9; what++) call("of", p, what);
+    for (int i = 0; i < 8; i++) call("safeTicks", p, i);
+    for (int i = 0; i < 12; i++) call("bestFeed", p, i);
+    for (int i = 0; i < 12; i++) for (int what = 0; what <= 5; what++) call("lamp", p, i, what);
+    for (int i = 0; i < 12; i++) for (int what = 0; what <= 6; what++) call("dimmer", p, i, what);
+    for (int i = 0; i < 3; i++) for (int what = 0; what <= 5; what++) call("phase", p, i, what);
+    for (int i = 0; i < 8; i++) for (int what = 0; what <= 3; what++) call("cue", p, i, what);
+    for (int i = 0; i < 8; i++) for (int what = 0; what <= 4; what++) call("ifGo", p, i, what);
+    for (int i = 0; i < 8; i++) for (int l = 0; l < 12; l++) call("inCue", p, i, l);
   }
 
   private void callByName(String name) throws Exception {
@@ -206,7 +212,7 @@ public final class ModelTest {
   }
 
   private void call(String name, long... given) throws Exception {
-    if (!good) return;
+    if (!good || log.size() >= MOST_CALLS) return;
     Method theirs = find(THEIRS, PhaseLights.class, name);
     Method ours = find(OURS, Model.class, name);
     Object[] arguments = new Object[given.length];

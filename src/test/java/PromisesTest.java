@@ -939,11 +939,11 @@ public final class PromisesTest {
       x.save(0);
       while (x.count(8) > 0) x.undo();
       x.restore(0);
-      long before = picture(x);
+      String before = Shows.picture(x);
       Check.holds("31: change " + change + " is no error", change(x, change) >= 0);
       due("31: count(8) behind change " + change, x.count(8), 2);
       due("31: undo() of change " + change, x.undo(), 1);
-      due("31: all is as before change " + change, picture(x), before);
+      Check.same("31: all is as before change " + change, Shows.picture(x), before);
     }
     undoOfTypes();
     undoOfFades();
@@ -969,25 +969,6 @@ public final class PromisesTest {
         Check.text(x, "0@9;r1/9;g1;x");
         return x.carryOut(0);
     }
-  }
-
-  /** A number that is made of many answers. */
-  private static long picture(PhaseLights x) {
-    long sum = 0;
-    for (int what = 0; what < 7; what++) sum = sum * 31 + x.count(what);
-    for (int p = 0; p < 3; p++) {
-      for (int what = 0; what < 9; what++) sum = sum * 31 + x.of(p, what);
-      for (int i = 0; i < 12; i++) {
-        for (int what = 0; what < 6; what++) {
-          sum = sum * 31 + x.lamp(p, i, what);
-          sum = sum * 31 + x.dimmer(p, i, what);
-          sum = sum * 31 + x.phase(p, i, what);
-          sum = sum * 31 + x.cue(p, i, what);
-          sum = sum * 31 + x.hire(what, i, 0);
-        }
-      }
-    }
-    return sum;
   }
 
   private static void undoOfTypes() {

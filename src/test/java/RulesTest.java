@@ -30,7 +30,8 @@ public final class RulesTest {
       "NO_SUCH", "BAD_VALUE", "BAD_TEXT", "TOO_MANY", "NOT_POSSIBLE", "NONE", "CAP", "LIMIT", "HOLD"));
   private static final String[] FORBIDDEN = {
     "throw", "throws", "try", "catch", "synchronized", "assert", "import", "package", "protected", "toString",
-    "hashCode", "\\w+Exact", "System\\.(?!arraycopy)\\w+", "Thread", "Object"
+    "hashCode", "\\w+Exact", "System\\.(?!arraycopy)\\w+", "Thread", "Object",
+    "MAX_VALUE", "MIN_VALUE"
   };
   private static final int[] VALUES = {
     Integer.MIN_VALUE, -100, -7, -6, -5, -1, 0, 1, 2, 3, 5, 6, 7, 8, 11, 12, 50, 100, 500, 2000, Integer.MAX_VALUE
