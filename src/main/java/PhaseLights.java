@@ -958,6 +958,7 @@ public final class PhaseLights {
             this.counts = counts;
         }
 
+        /** Not by hasBit(): this stands at the end of the deepest chain of calls. */
         boolean hasTripped(int number) {
             return (tripped >> number & 1) != 0;
         }
